@@ -12,6 +12,7 @@ public final class PromisesTest {
     textNumbers();
     textFaults();
     textDepths();
+    textsAnew();
     force();
     asks();
     asksByText();
@@ -262,7 +263,8 @@ public final class PromisesTest {
       "turns 1;costs 1;yells 1;^;", "turns 1;costs 1;yells 1; ^turns 1;", "turns 1;costs 1;yells 1;\n^\t",
       "turns ^12345;", "turns ^00000;", "turns ^123456789012345678901234567890;", "turns 123 ^4;", "turns 12^cold;",
       "turns cold^2;", "turns 1234^cold;", "turns ^colder;", "turns ^notcold;", "turns ^x;",
-      "turns ^Cold;", "turns ^colde;", "turns ^col;", "turns ^col cold;", "turns cold^D;", "turns cold^A;", "turns ^turns;",
+      "turns ^Cold;", "turns ^colde;", "turns ^coldz;", "turns ^acold;", "turns ^told;", "^burns 1;",
+      "turns ^cond;", "turns ^mord;", "turns ^zzz;", "turns ^col;", "turns ^col cold;", "turns cold^D;", "turns cold^A;", "turns ^turns;",
       "turns ^or 1;", "turns 1 or ^and 1;", "turns 1 and ^or 1;", "turns 1 or ^;", "turns 1 and ^;", "turns not ^;",
       "turns cold < was ^< set;", "turns cold = was ^= set;", "turns cold < was ^= set;", "turns cold < ^< was;",
       "turns cold + ^not was;", "turns cold * ^not was;", "turns cold < ^not was;", "turns - ^not cold;",
@@ -297,6 +299,30 @@ public final class PromisesTest {
       "not not not 1 < (-^-1", "(not 1)+(((((^(1", "not(1)+((((^(1",
     };
     for (String m : marked) fault("turns " + m);
+  }
+
+  /** What was read ahead, well or not, takes no room from the next text. */
+  private static void textsAnew() {
+    promise = "4 text, anew";
+    TooHotTooCold x = with(0, 0, 0);
+    StringBuilder sum = new StringBuilder("turns 0-1");
+    while (sum.length() < 160 - REST.length() - 1) sum.append("+1");
+    int ones = (sum.length() - "turns 0-1".length()) / 2;
+    for (int t = 1; t < 6; t++) {
+      due("open at the end", text(x, "turns not(-(-"), -113);
+      due("open at the end", text(x, "turns -----"), -111);
+      due("a sum of " + ones, text(x, sum + REST), t);
+      x.force(t);
+      due("the sum", x.asks(0, 0, 0, 0, 0), ones - 1);
+    }
+    x = with(0, 0, 0);
+    due("open at the end", text(x, "turns ((((("), -111);
+    due("five open", text(x, "turns (((((7)))))" + REST), 1);
+    x.force(1);
+    due("five open", x.asks(0, 0, 0, 0, 0), 7);
+    due("a fault leaves the law", text(x, "turns 8;costs 9;yells 1;;"), -124);
+    due("a fault leaves the law", x.asks(0, 0, 0, 0, 0), 7);
+    due("a fault leaves the law", x.asks(1, 0, 0, 0, 0), 1);
   }
 
   private static void force() {
@@ -511,6 +537,9 @@ public final class PromisesTest {
     x = under("turns was-cold+set*0+beat+late*10;costs 1;yells 0;");
     x.shower(0, 1, 10);
     sets(x, 0, 10, 21, 43, 67, 103);
+    x = under("turns was-cold+7;costs 1;yells 0;");
+    x.shower(0, 0, 10);
+    sets(x, 0, 7, 21, 42, 70);
     x = under("turns 0-set;costs 1;yells 0;");
     x.shower(0, 4, 10);
     x.set(0, 2, 90);
@@ -622,10 +651,11 @@ public final class PromisesTest {
     due("13 too hot for an old one", x.day(0, 2), 0);
     x.set(0, 2, 64);
     due("14 too hot for an old one", x.day(0, 2), 30);
-    x = with(0, 0, 500);
+    x = with(0, 0, 500, 50, 0, 9);
     x.set(0, 2, 600);
     due("the most in beat 0", x.day(0, 3), 600);
-    for (int who : new int[] {-1, 1, MIN, MAX}) due("shower " + who, x.day(who, 9), -5);
+    due("cold for ever", x.day(1, 3), 0);
+    for (int who : new int[] {-1, 2, MIN, MAX}) due("shower " + who, x.day(who, 9), -5);
     for (int what : new int[] {-1, 4, MIN, MAX}) due("what " + what, x.day(0, what), -7);
   }
 
@@ -669,6 +699,16 @@ public final class PromisesTest {
     x = under("turns 9;costs 1;yells 0;");
     x.shower(0, 0, 10);
     due("9 beats", x.sways(0), 81);
+    x = under("turns 0-(beat=18)*90-(beat=25)*4;costs 1;yells 0;");
+    x.shower(0, 0, 10);
+    x.set(0, 2, 100);
+    due("of beats 20 to 29, falling", x.sways(0), 4);
+    x = under("turns 0-(beat=19)*90-(beat=28)*4;costs 1;yells 0;");
+    x.shower(0, 0, 10);
+    x.set(0, 2, 100);
+    due("of beats 20 to 29, falling", x.sways(0), 4);
+    x.set(0, 0, 1);
+    due("of beats 20 to 29, falling late", x.sways(0), 90);
   }
 
   private static void house() {
@@ -700,6 +740,9 @@ public final class PromisesTest {
     x.set(0, 0, 3);
     due("of like ones the first", x.house(2), 9);
     due("the costs", x.house(0), 2 * 30 * 99);
+    x = under("turns 0;costs 1;yells beat<9;");
+    x.shower(0, 0, 0);
+    due("beat 0", x.house(2), 0);
     due("none", new TooHotTooCold().house(2), -1);
     for (int what : new int[] {-1, 3, MIN, MAX}) due("what " + what, x.house(what), -2);
   }
@@ -729,6 +772,13 @@ public final class PromisesTest {
     due("off, pass(30)", x.pass(30), 0);
     due("off, told(0, 2)", x.told(0, 2), 7);
     for (int n : new int[] {-1, 31, MIN, MAX}) due("pass(" + n + ")", x.pass(n), -2);
+    TooHotTooCold full = with(0, 0, 1, 0, 0, 2, 0, 0, 3, 0, 0, 4);
+    due("four", full.house(0), 1 + 4 + 9 + 16);
+    due("four, off(0)", full.off(0), 3);
+    due("four, off(1)", full.off(1), 1 + 4 + 9);
+    due("four, odds", full.odds(0, 1, 999, 0), 1);
+    due("four, pass(1)", full.pass(1), 1 + 4 + 9 + 16);
+    for (int who = 0; who < 4; who++) due("four, told(" + who + ", 2)", full.told(who, 2), who + 1);
     due("told(0, 2)", x.told(0, 2), 7);
     x = under("turns cold-was+1;costs 1;yells 0;");
     x.shower(0, 0, 50);
@@ -797,10 +847,20 @@ public final class PromisesTest {
     due("soon(1, 49, 1)", x.soon(1, 49, 1), -1);
     due("soon(1, 50, 0)", x.soon(1, 50, 0), 0);
     due("told(0, 3)", x.told(0, 3), 8);
+    x = under("turns (beat=0)*8;costs 99-set;yells 0;");
+    x.shower(0, 0, 16);
+    x.shower(0, 0, 15);
+    due("the hastiest is soonest", x.soon(0, 0, 0), 16);
+    due("the hastiest is soonest", x.soon(0, 0, 1), 1);
+    due("the card's hastiest", x.card(0), 16);
+    due("the card's hastiest", x.card(1), 2 * (99 + 29 * (99 - 16)));
+    due("the second's soonest", x.soon(1, 0, 0), 15);
     for (int who : new int[] {-1, 2, MIN, MAX}) due("shower " + who, x.soon(who, -9, 9), -5);
     for (int near : new int[] {-1, 1000, MIN, MAX}) due("near " + near, x.soon(0, near, 0), -7);
     for (int what : new int[] {-1, 2, MIN, MAX}) due("what " + what, x.soon(0, 0, what), -7);
-    due("what, though there is none", x.soon(1, 49, 2), -7);
+    x = with(50, 0, 50);
+    due("there is none", x.soon(0, 49, 0), -1);
+    due("what, though there is none", x.soon(0, 49, 2), -7);
   }
 
   private static void card() {
@@ -858,24 +918,27 @@ public final class PromisesTest {
       due("it doesn't end, 1", x.even(0, 1, 1), -1);
       due("it doesn't end, 0", x.even(1, 0, 0), -1);
     }
-    race(132, 8, 16);
-    race(132, 7, 18);
-    race(131, 7, 17);
-    race(131, 6, -1);
-    race(132, 6, -1);
+    race(132, 0, 8, 16);
+    race(132, 0, 7, 18);
+    race(131, 0, 7, 17);
+    race(131, 0, 6, -1);
+    race(132, 0, 6, -1);
+    race(132, 8, 7, 17);
+    race(131, 7, 6, -1);
   }
 
   /** Each wants to be as high as the other, the second one stands a little higher: step by step both rise to an end. */
-  private static void race(int end, int hasteOfTheSecond, int changes) {
+  private static void race(int end, int hasteOfTheFirst, int hasteOfTheSecond, int changes) {
     TooHotTooCold x = under("turns (beat=0)*16;costs set-100+50*(set+cold)*(set<" + end + ");yells 0;");
     x.shower(10, 0, 0);
     x.shower(10, 0, 0);
     x.set(0, 2, 100);
     x.set(1, 2, 101);
-    x.set(0, 3, 0);
+    x.set(0, 3, hasteOfTheFirst);
     x.set(1, 3, hasteOfTheSecond);
-    due("a race to " + end + " from " + hasteOfTheSecond, x.even(0, 1, 0), changes);
-    due("a race to " + end + " from " + hasteOfTheSecond, x.even(0, 1, 1), changes < 0 ? -1 : 1600 + (end - 100) / 2);
+    String race = "a race to " + end + " from " + hasteOfTheFirst + ", " + hasteOfTheSecond;
+    due(race, x.even(0, 1, 0), changes);
+    due(race, x.even(0, 1, 1), changes < 0 ? -1 : 1600 + (end - 100) / 2);
   }
 
   // ---- 21 to 24
@@ -1284,10 +1347,17 @@ public final class PromisesTest {
     for (int who = 0; who < 2; who++) {
       for (int what = 0; what < 5; what++) x.set(who, what, what == 4 ? who == 0 ? 1 : 0 : 4);
     }
+    x.set(2, 2, 44);
+    x.set(2, 3, 2);
+    x.set(2, 4, 0);
+    x.set(2, 4, 1);
     x.force(0);
     x.pass(2);
+    due("a third one's cost", x.day(2, 0) > 0 ? 1 : 0, 1);
+    x.house(0);
     due("back()", x.back(), 2);
     due("all is as it was", allTold(x), before);
+    due("it costs nothing now", x.house(0), 30);
     due("count(1)", x.count(1), 2);
     due("none came", x.told(2, 0), -5);
     due("taken(2, 0)", x.taken(2, 0), -11);

@@ -275,16 +275,14 @@ public final class TooHotTooCold {
         return choiceOrCost(bestHaste(x), what);
     }
 
-    /** The least choice of haste for one in the house that is thought of, which is left as it was. */
+    /** The least choice of haste for one in the house that is thought of, which has its haste changed by that. */
     private int bestHaste(int x) {
-        int was = thought.haste[x];
         int least = NO_CHOICE;
         for (int h = 0; h <= MOST_HASTE; h++) {
             thought.haste[x] = h;
             live(thought);
             least = Math.min(least, choice(morning.cost[x], h));
         }
-        thought.haste[x] = was;
         return least;
     }
 
