@@ -580,6 +580,12 @@ public final class PromisesTest {
     sets(x, 0, 99, 99);
     x.set(0, 2, 105);
     sets(x, 0, 102, 102);
+    x = with(20, 0, 100);
+    x.set(0, 2, 93);
+    sets(x, 0, 100);
+    x = with(40, 0, 100);
+    x.set(0, 2, 93);
+    sets(x, 0, 100);
     x = with(32, 0, 100, 0, 0, 0);
     x.set(0, 3, 0);
     x.set(1, 3, 0);
@@ -1375,6 +1381,18 @@ public final class PromisesTest {
     due("the tape stays", x.count(4), 2);
     due("sheets stay", x.cell(0, 2, 1), 1);
     due("the image wasn't turned", x.told(1, 2), 33);
+    x = under("turns 0;costs 1;yells late=beat;");
+    x.shower(0, 0, 0);
+    x.image();
+    x.shower(0, 3, 0);
+    x.shower(0, 3, 0);
+    due("three cry", x.house(1), 7);
+    due("two cry", x.house(2), 3);
+    due("back()", x.back(), 1);
+    due("one cries", x.house(1), 1);
+    due("one cries", x.house(2), 0);
+    row(x, 0, 0, 3);
+    due("none cries", x.criers(0), 0);
   }
 
   // ---- 37 to 41

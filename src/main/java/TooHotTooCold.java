@@ -341,21 +341,18 @@ public final class TooHotTooCold {
         int changes = 0;
         int unchanged = 0;
         for (int turn = 0; turn < MOST_TURNS && unchanged < 2; turn++) {
-            if (changesItsHaste(turn % 2 == 0 ? x : y)) {
+            int who = turn % 2 == 0 ? x : y;
+            int was = thought.haste[who];
+            thought.haste[who] = choiceOrCost(bestHaste(who), 0);
+            if (thought.haste[who] == was) {
+                unchanged++;
+            } else {
                 changes++;
                 unchanged = 0;
-            } else {
-                unchanged++;
             }
         }
         if (unchanged < 2) return NONE;
         return what == 0 ? changes : 100 * thought.haste[x] + thought.haste[y];
-    }
-
-    private boolean changesItsHaste(int x) {
-        int was = thought.haste[x];
-        thought.haste[x] = choiceOrCost(bestHaste(x), 0);
-        return thought.haste[x] != was;
     }
 
     private boolean areTwo(int x, int y) {
@@ -876,14 +873,7 @@ public final class TooHotTooCold {
         }
 
         int says(int part) {
-            int value = valueOf(part);
-            if (part == TURNS) return bounded(value, -99, 99);
-            if (part == COSTS) return bounded(value, 0, 99);
-            return value != 0 ? 1 : 0;
-        }
-
-        private int valueOf(int part) {
-            if (part < 0 || part >= PARTS) return 0;
+            if (part < TURNS || part > YELLS) return 0;
             int top = 0;
             int end = Math.min(starts[part + 1], steps.length);
             for (int i = Math.max(0, starts[part]); i < end; i++) {
@@ -899,7 +889,10 @@ public final class TooHotTooCold {
                     stack[top - 1] = joined(step, stack[top - 1], stack[top]);
                 }
             }
-            return top > 0 ? stack[top - 1] : 0;
+            int value = top > 0 ? stack[top - 1] : 0;
+            if (part == TURNS) return bounded(value, -99, 99);
+            if (part == COSTS) return bounded(value, 0, 99);
+            return value != 0 ? 1 : 0;
         }
 
         private int known(int step) {
