@@ -115,13 +115,9 @@ public final class TooHotTooCold {
     // ---- showers
 
     public int shower(int kindMore, int so, int warm) {
-        return newShower(kindMore, so, warm);
-    }
-
-    private int newShower(int kindMore, int late, int wanted) {
-        if (!within(kindMore, 0, KINDS * MORES - 1) || !within(late, 0, MOST_LATE) || !isWarm(wanted)) return BAD;
+        if (!within(kindMore, 0, KINDS * MORES - 1) || !within(so, 0, MOST_LATE) || !isWarm(warm)) return BAD;
         if (truth.size >= MOST_SHOWERS) return FULL;
-        truth.enter(kindMore / MORES, kindMore % MORES, late, wanted);
+        truth.enter(kindMore / MORES, kindMore % MORES, so, warm);
         return truth.size - 1;
     }
 
@@ -660,7 +656,7 @@ public final class TooHotTooCold {
         for (int k = 0; k < n; k++) {
             int from = at + 3 * k;
             if (!isStretch(s, from, 3)) return OUTSIDE;
-            if (newShower(rows[s][from], rows[s][from + 1], rows[s][from + 2]) >= 0) came++;
+            if (shower(rows[s][from], rows[s][from + 1], rows[s][from + 2]) >= 0) came++;
         }
         return came;
     }
