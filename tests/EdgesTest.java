@@ -932,6 +932,10 @@ public final class EdgesTest {
     String late = "turns 0;costs late;yells 0;";
     off("the last", under(late, 0, 0, 0, 0, 1, 0, 0, 2, 0, 0, 3, 0), 3, 90);
     off("the first", under(late, 0, 3, 0, 0, 1, 0, 0, 2, 0, 0, 0, 0), 0, 90);
+    sentence("22 off: were it not on, the others would cost less, or more");
+    TooHotTooCold shares = under("turns 0;costs cold+1;yells 0;", 14, 0, 50, 14, 0, 50, 0, 0, 51);
+    for (int who = 0; who < 3; who++) shares.set(who, 2, shares.told(who, 1));
+    off("not who costs most, but who makes others dear", shares, 2, 30 * 2);
     sentence("22 off: of like ones the first");
     off("alike", under(late, 0, 0, 0, 0, 2, 0, 0, 2, 0, 0, 1, 0), 1, 90);
     off("costing nothing", under(late, 0, 0, 0, 0, 0, 0), 0, 0);
@@ -1194,6 +1198,11 @@ public final class EdgesTest {
     due("kind", x.kinds(0, 0, 0), 2 + 8);
     row(x, 0, 0, 100);
     due("kind", x.kinds(0, 0, 0), 1 + 4 + 16 + 32);
+    sentence("28 kinds: more, with the kind that it has");
+    row(x, 0, 0, 100);
+    due("more of a plain one", x.kinds(0, 0, 1), 1023);
+    row(x, 0, 0, 93);
+    due("more of a plain one", x.kinds(0, 0, 1), 0);
     sentence("28 kinds: more 0, more 9, with the kind that it has");
     TooHotTooCold shared = with(13, 0, 500, 0, 0, 0);
     shared.set(0, 2, 100);
@@ -1594,12 +1603,33 @@ public final class EdgesTest {
     due("shower", x.shower(0, 0, 0), 1);
     int[] want = {0, 0, 0, 8, 1, 0, 0, 50};
     for (int what = 0; what < 8; what++) due("told(1, " + what + ")", x.told(1, what), want[what]);
+    goneOnesAreStill();
     sentence("36 back: sheets and the tape stay");
     row(x, 1, 2, 5, 6, 7);
     tape(x, "ab");
     due("back()", x.back(), 1);
     due("cell(1, 2, 7)", x.cell(1, 2, 7), 1);
     due("count(4)", x.count(4), 2);
+  }
+
+  private static void goneOnesAreStill() {
+    sentence("36 back: those that are none neither cry nor cost, nor hurt");
+    TooHotTooCold x = under("turns 0;costs cold;yells late<1 or beat=5;", 10, 1, 50);
+    x.set(0, 2, 40);
+    x.image();
+    int cost = x.house(0);
+    for (int n = 0; n < 3; n++) x.set(x.shower(0, 0, 999), 2, 50);
+    due("the beat, with them", x.house(2), 5);
+    for (int n = 1; n < 4; n++) x.set(n, 0, 0);
+    due("it costs more by them", x.day(0, 0), cost + 90);
+    x.shower(0, 0, 0);
+    due("back()", x.back(), 1);
+    due("cost", x.house(0), cost);
+    due("the beat", x.house(2), 5);
+    due("who cries", x.house(1), 1);
+    due("off", x.off(0), 0);
+    due("card", x.card(1), cost);
+    due("odds", x.odds(0, 3, 999, 0), 1);
   }
 
   // ---- 37 to 41
@@ -1901,8 +1931,8 @@ public final class EdgesTest {
     due("one has room", x.showersBy(0, 2, 0, 3), 1);
     due("told(3, 1)", x.told(3, 1), 4);
     due("none has room", x.showersBy(0, 2, 0, 3), 0);
-    sentence("40 showersBy: none of them: 0");
-    due("none", x.showersBy(0, 2, 0, 0), 0);
+    sentence("40 showersBy: none of them: 0, wherever the place is");
+    each("none at", 0, v -> x.showersBy(0, 2, v, 0), 0, 6, 7, 9, 10, -1, MIN, MAX);
     TooHotTooCold empty = new TooHotTooCold();
     row(empty, 0, 2);
     due("none, of a sheet of none", empty.showersBy(0, 2, 0, 0), 0);

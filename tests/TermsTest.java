@@ -576,6 +576,10 @@ public final class TermsTest {
     says("not " + low, 0);
     says(low + " and " + high, 1);
     says("8192*8192*64 or 0", 0);
+    says("8192*8 and 8192*8", 1);
+    says(low + " and 2", 1);
+    says(low + " or " + low, 1);
+    says("(0-7)or 7", 1);
     says("not 8192*8192*64", 1);
     sentence("TEXT: what wrapped is bounded then");
     says(high, 99);
