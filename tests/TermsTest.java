@@ -22,6 +22,7 @@ public final class TermsTest {
     grammar();
     order();
     truth();
+    waiting();
     wraps();
     faultPlaces();
     faultWords();
@@ -535,6 +536,21 @@ public final class TermsTest {
     says("2 and 1", 1);
     says("4 or 8", 1);
     says("(1<2)+(2=2)+(1 and 1)+(1 or 0)+(not 0)", 5);
+  }
+
+  private static void waiting() {
+    sentence("TEXT: as many numbers wait as can: five open, with or, and, <, + and * in each");
+    for (int inner = 0; inner < 2; inner++) {
+      StringBuilder e = new StringBuilder();
+      for (int i = 0; i < 5; i++) e.append("0 or 1 and 0<0+1*(");
+      says(e + "0 or 1 and 0<0+1*" + inner + ")))))", inner);
+    }
+    sentence("TEXT: as long a sum, as long a product, as many ors as can stand there");
+    says("1+".repeat(64) + "1-0", 65);
+    says("2*".repeat(5) + "1*".repeat(59) + "1", 32);
+    says("0 or ".repeat(27) + "1", 1);
+    says("1 and ".repeat(22) + "0", 0);
+    says("1 and ".repeat(22) + "7", 1);
   }
 
   private static void wraps() {

@@ -398,11 +398,13 @@ public final class UnchangedTest {
         for (int n : new int[] {-1, 31, MIN, MAX}) no(calls, -7, "30 film of n", x -> x.film(sheet, 0, n));
       }
       no(calls, -2, "15 pass(31)", x -> x.pass(31));
+      notAsTold(calls);
       no(calls, -13, "39 copy to another sort", x -> x.copy(0, 0, 1, 0, 1));
       no(calls, -13, "39 copy to another sort", x -> x.copy(1, 0, 2, 0, 1));
       no(calls, -13, "40 showersBy another sort", x -> x.showersBy(1, 0, 0, 1));
     }
     if (house == SOME) {
+      tooLong(calls, 2);
       no(calls, -11, "38 cell of a missing sheet", x -> x.cell(3, 0, 7));
       no(calls, -11, "39 copy to a missing sheet", x -> x.copy(2, 0, 3, 0, 1));
       no(calls, -11, "39 copy of a missing sheet", x -> x.copy(3, 0, 2, 0, 1));
@@ -419,6 +421,7 @@ public final class UnchangedTest {
       no(calls, -2, "5 force(3)", x -> x.force(3));
     }
     if (house == FULL_HOUSE) {
+      tooLong(calls, 0);
       no(calls, -4, "3 feed of 1", x -> x.feed(1, 't', 't', 't', 't', 't'));
       no(calls, -4, "3 feed of 5", x -> x.feed(5, 't', 't', 't', 't', 't'));
       no(calls, -4, "4 text", x -> x.text());
@@ -427,6 +430,56 @@ public final class UnchangedTest {
       no(calls, 0, "40 showersBy, all left out", x -> x.showersBy(1, 1, 0, 4));
       no(calls, -12, "38 cell(0, 40, 7)", x -> x.cell(0, 40, 7));
     }
+  }
+
+  /** A shower is there, but another number is not as told. */
+  private static void notAsTold(List<Made> calls) {
+    for (int v : new int[] {-1, MIN, MAX}) {
+      no(calls, -2000, "6 asks of a part", x -> x.asks(v, 0, 0, 0, 0));
+      no(calls, -2000, "6 asks of coldWas", x -> x.asks(0, v, 0, 0, 0));
+      no(calls, -2000, "6 asks of set", x -> x.asks(0, 0, v, 0, 0));
+      no(calls, -2000, "6 asks of a beat", x -> x.asks(0, 0, 0, v, 0));
+      no(calls, -7, "9 told of what", x -> x.told(0, v));
+      no(calls, -200000, "10 at of a beat", x -> x.at(0, v, 0));
+      no(calls, -200000, "10 at of what", x -> x.at(0, 0, v));
+      no(calls, -7, "11 day of what", x -> x.day(0, v));
+      no(calls, -7, "12 rests of near", x -> x.rests(0, v));
+      no(calls, -7, "16 best of what", x -> x.best(0, v));
+      no(calls, -7, "17 line of near", x -> x.line(0, v));
+      no(calls, -7, "18 soon of near", x -> x.soon(0, v, 0));
+      no(calls, -7, "18 soon of what", x -> x.soon(0, 0, v));
+      no(calls, -5, "20 even of y", x -> x.even(0, v, 0));
+      no(calls, -7, "20 even of what", x -> x.even(0, 1, v));
+      no(calls, -100000, "21 hurts of x", x -> x.hurts(v, 0));
+      no(calls, -7, "24 leave of what", x -> x.leave(0, v));
+      no(calls, -5, "25 judge of a shower", x -> x.judge(1, v));
+      no(calls, -5, "27 fits of a shower", x -> x.fits(1, v, 0));
+      no(calls, -7, "27 fits of a sort", x -> x.fits(1, 0, v));
+      no(calls, -5, "28 kinds of a shower", x -> x.kinds(1, v, 0));
+      no(calls, -7, "28 kinds of a sort", x -> x.kinds(1, 0, v));
+      no(calls, -5, "29 laws of a shower", x -> x.laws(1, v));
+      no(calls, -5, "32 heard of a shower", x -> x.heard(1, v));
+      no(calls, -2, "33 drawn of what", x -> x.drawn(0, v));
+      no(calls, TooHotTooCold.NO, "34 odds of seeds", x -> x.odds(0, v, 0, 0));
+      no(calls, TooHotTooCold.NO, "34 odds of near", x -> x.odds(0, 1, v, 0));
+      no(calls, TooHotTooCold.NO, "34 odds of a part", x -> x.odds(0, 1, 0, v));
+    }
+    no(calls, -5, "20 even of one twice", x -> x.even(1, 1, 0));
+    no(calls, -100000, "21 hurts of one twice", x -> x.hurts(1, 1));
+    no(calls, -13, "41 taken of another kind", x -> x.taken(0, 5));
+    no(calls, -13, "41 taken of a shower as a set", x -> x.taken(0, 6));
+    no(calls, -13, "41 taken of a set as a shower", x -> x.taken(4, 0));
+  }
+
+  /** A sheet that tells of more than thirty. */
+  private static void tooLong(List<Made> calls, int s) {
+    no(calls, -2, "25 judge of too much", x -> x.judge(s, 0));
+    no(calls, -2, "26 whose of too much", x -> x.whose(s));
+    no(calls, -2, "27 fits of too much", x -> x.fits(s, 0, 0));
+    no(calls, -2, "28 kinds of too much", x -> x.kinds(s, 0, 0));
+    no(calls, -2, "29 laws of too much", x -> x.laws(s, 0));
+    no(calls, -2, "31 criers of too much", x -> x.criers(s));
+    no(calls, -2, "32 heard of too much", x -> x.heard(s, 0));
   }
 
   // ---- what truly changes
